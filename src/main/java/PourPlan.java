@@ -313,10 +313,10 @@ public final class PourPlan {
     }
 
     public int keep(int i) {
-        if (!within(i, 0, images.length - 1)) {
+        Image image = imageAt(i);
+        if (image == null) {
             return UNKNOWN;
         }
-        Image image = images[i];
         image.kept = true;
         image.seedThen = seedNow;
         image.wallThen.copyFrom(wall);
@@ -325,10 +325,10 @@ public final class PourPlan {
     }
 
     public int goBack(int i) {
-        if (!within(i, 0, images.length - 1)) {
+        Image image = imageAt(i);
+        if (image == null) {
             return UNKNOWN;
         }
-        Image image = images[i];
         if (!image.kept) {
             return NOT;
         }
@@ -408,6 +408,11 @@ public final class PourPlan {
             }
         }
         return 0;
+    }
+
+    /** Null: there is no IMAGE of that number, kept or not. */
+    private Image imageAt(int i) {
+        return i >= 0 && i < images.length ? images[i] : null;
     }
 
     private int draw(int n) {
@@ -552,7 +557,7 @@ public final class PourPlan {
         // -- trucks
 
         boolean isTruck(int k) {
-            return k >= 0 && k < trucks && k < MOST_TRUCKS;
+            return k >= 0 && k < trucks;
         }
 
         boolean hasTruckRoom() {
@@ -578,7 +583,7 @@ public final class PourPlan {
             if (!isTruck(k)) {
                 return;
             }
-            for (int i = k; isTruck(i + 1); i++) {
+            for (int i = k; i + 1 < trucks; i++) {
                 truckTimes[i] = truckTimes[i + 1];
                 truckLoads[i] = truckLoads[i + 1];
             }
@@ -587,7 +592,7 @@ public final class PourPlan {
 
         int broughtBy(int when) {
             int loads = 0;
-            for (int k = 0; isTruck(k); k++) {
+            for (int k = 0; k < trucks; k++) {
                 if (truckTimes[k] <= when) {
                     loads += truckLoads[k];
                 }
@@ -598,7 +603,7 @@ public final class PourPlan {
         /** The least TIME by which so many LOADS have come in all; NONE: so many never come. */
         int broughtAt(int loads) {
             int least = NONE;
-            for (int k = 0; isTruck(k); k++) {
+            for (int k = 0; k < trucks; k++) {
                 int when = truckTimes[k];
                 if ((least == NONE || when < least) && broughtBy(when) >= loads) {
                     least = when;
@@ -724,6 +729,7 @@ public final class PourPlan {
         int bestHarm;
         private int bestEnd;
         private int strips;
+        private int layers;
         private int cells;
         private int age;
         private int heavy;
@@ -760,7 +766,7 @@ public final class PourPlan {
             return found && i >= 0 && i < count && i < bestOrder.length ? bestOrder[i] : NONE;
         }
 
-        /** ORDERS of more HARM than the ceiling are not looked at; of harm alone, those of like HARM are one. */
+        /** ORDERS of more HARM than the ceiling are not looked at; alone: only whether the ceiling is the least HARM. */
         private void search(Wall wall, int ceiling, boolean alone) {
             readWall(wall);
             readCells(wall);
@@ -776,6 +782,7 @@ public final class PourPlan {
 
         private void readWall(Wall wall) {
             strips = wall.strips;
+            layers = wall.layers;
             cells = wall.cells;
             age = wall.age;
             heavy = wall.heavy;
@@ -803,7 +810,7 @@ public final class PourPlan {
 
         private void readArrivals(Wall wall) {
             fillRow(arrivals, NEVER);
-            for (int k = 0; wall.isTruck(k); k++) {
+            for (int k = 0; k < wall.trucks; k++) {
                 int when = wall.truckTimes[k];
                 int loads = wall.broughtBy(when);
                 for (int i = 0; i <= loads && i < arrivals.length; i++) {
@@ -854,12 +861,13 @@ public final class PourPlan {
             return done[c] == NEVER && (c < strips || done[c - strips] != NEVER);
         }
 
+        /** Alone, less HARM than the ceiling settles it: bestHarm is then below all HARM, and the search runs out. */
         private void take(int time, int harm) {
             if (!mayBeBetter(harm, time)) {
                 return;
             }
             found = true;
-            bestHarm = harm;
+            bestHarm = harmAlone && harm < bestHarm ? NONE : harm;
             bestEnd = time;
             copyRow(order, bestOrder);
         }
@@ -882,8 +890,9 @@ public final class PourPlan {
             for (int strip = 0; strip < strips; strip++) {
                 int start = time;
                 int usedThen = used;
-                for (int layer = 0, c = strip; layer < MOST_CELLS && c < cells; layer++, c += strips) {
-                    if (done[c] != NEVER) {
+                for (int layer = 0; layer < layers; layer++) {
+                    int c = layer * strips + strip;
+                    if (c >= cells || done[c] != NEVER) {
                         continue;
                     }
                     usedThen += needs[c];
