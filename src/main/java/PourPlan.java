@@ -353,7 +353,7 @@ public final class PourPlan {
 
     private Planner plan() {
         if (!planned) {
-            planner.solve(wall);
+            planner.search(wall, NEVER, false);
             planned = true;
         }
         return planner;
@@ -745,10 +745,6 @@ public final class PourPlan {
         /** At i: the least TIME by which i LOADS have come in all. */
         private final int[] arrivals = new int[MOST_CELLS * MOST_NEED + 1];
 
-        void solve(Wall wall) {
-            search(wall, NEVER, false);
-        }
-
         boolean leastHarmIs(Wall wall, int harm) {
             search(wall, harm, true);
             return found && bestHarm == harm;
@@ -767,7 +763,7 @@ public final class PourPlan {
         }
 
         /** ORDERS of more HARM than the ceiling are not looked at; alone: only whether the ceiling is the least HARM. */
-        private void search(Wall wall, int ceiling, boolean alone) {
+        void search(Wall wall, int ceiling, boolean alone) {
             readWall(wall);
             readCells(wall);
             readArrivals(wall);

@@ -90,6 +90,51 @@ public final class PromiseTest {
         told(x, 19, 7);
         firstOfLike();
         bestOfLike();
+        bestByAge();
+        bestWithJoints();
+        bestOfTheMost();
+    }
+
+    /** A side that is covered when it is just AGE old does no HARM, on either hand. */
+    private static void bestByAge() {
+        for (int first = 0; first < 2; first++) {
+            PourPlan x = wall(2, 1);
+            x.truck(0, 1);
+            x.truck(7, 1);
+            told(x, 13, 0, 8, 12);
+            x.pour(first);
+            told(x, 13, 0, 8, 6);
+            x.late(1, 1);
+            told(x, 13, 1, 9, 12);
+            due("truckAt(1, 2)", x.truckAt(1, 2), 12);
+        }
+    }
+
+    /** A JOINT that is covered by now and one that is OPEN are in the HARM of BEST. */
+    private static void bestWithJoints() {
+        PourPlan x = wall(2, 2);
+        x.truck(0, 4);
+        x.pour(0);
+        x.rest(7);
+        told(x, 10, 2, 4, NONE, 4, 11);
+        x.pour(1);
+        told(x, 10, 2, 4, 3, 4, 11);
+        x.pour(3);
+        told(x, 10, 2, 4, 11, 4, 11);
+        x.pour(2);
+        told(x, 10, 2, 4, NONE, 4, 11);
+    }
+
+    /** All nine CELLS need the most, and no LOAD is over. */
+    private static void bestOfTheMost() {
+        PourPlan x = wall(3, 3);
+        for (int c = 0; c < 9; c++) x.need(c, 3);
+        for (int k = 0; k < 6; k++) x.truck(0, 4);
+        x.truck(0, 2);
+        told(x, 13, NONE, NONE, NONE);
+        x.truck(90, 1);
+        // eight CELLS are DONE at 24, and the last begins at 90: HARM 3 and 1, if it is in a corner above
+        told(x, 13, 4, 93);
     }
 
     private static void firstOfLike() {
@@ -424,8 +469,9 @@ public final class PromiseTest {
     }
 
     /** What is drawn is done by calls on a twin; both stand alike then. */
-    private static void drifts(int seed, int strips, int layers) {
+    private static void drifts(int seed, int strips, int layers, int rests) {
         PourPlan x = wall(strips, layers), twin = wall(strips, layers);
+        for (int i = 0; i < rests; i++) due("rest(10)", x.rest(10), twin.rest(10));
         due("seed", x.seed(seed), 0);
         twinSeed = seed;
         due("drift(0)", x.drift(0), OUTSIDE);
@@ -643,6 +689,7 @@ public final class PromiseTest {
         String second = all(x);
         x.rest(5);
         x.seed(4);
+        told(x, 13, NONE);
         due("goBack(0)", x.goBack(0), 1);
         unchanged(x, first);
         due("seed(77)", x.seed(77), 77);
@@ -670,7 +717,8 @@ public final class PromiseTest {
         promise = 12; pours();
         promise = 13; rests();
         promise = 14; follows();
-        promise = 15; drifts(373, 3, 2); drifts(11, 3, 3); drifts(2147483647, 1, 3);
+        promise = 15; drifts(373, 3, 2, 0); drifts(11, 3, 3, 0); drifts(2147483647, 1, 3, 0);
+        for (int seed = 0; seed < 20; seed++) drifts(seed, 3, 2, 7 + seed % 4);
         promise = 16; undone();
         promise = 17; bests();
         promise = 18; stops();
