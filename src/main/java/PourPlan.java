@@ -176,26 +176,12 @@ public final class PourPlan {
     }
 
     public int bound(int what, int v) {
-        int before;
-        if (what == 0 && within(v, 1, MOST_AGE)) {
-            before = wall.age;
-            beforeDeed();
-            wall.age = v;
-            return before;
+        boolean isAge = what == 0;
+        if (!within(what, 0, 2) || !within(v, isAge ? 1 : 0, isAge ? MOST_AGE : MOST_HARM)) {
+            return OUTSIDE;
         }
-        if (what == 1 && within(v, 0, MOST_HARM)) {
-            before = wall.heavy;
-            beforeDeed();
-            wall.heavy = v;
-            return before;
-        }
-        if (what == 2 && within(v, 0, MOST_HARM)) {
-            before = wall.light;
-            beforeDeed();
-            wall.light = v;
-            return before;
-        }
-        return OUTSIDE;
+        beforeDeed();
+        return wall.swapBound(what, v);
     }
 
     public int pour(int c) {
@@ -403,7 +389,9 @@ public final class PourPlan {
         }
         int most = Math.min(MOST_WAIT, LAST_TRUCK_TIME - wall.truckTimes[k]);
         for (int n = most; n > 0; n--) {
-            if (stockIfLate(k, n) >= 0 && tryout.leastHarmIs(trial, plan.bestHarm)) {
+            trial.copyFrom(wall);
+            trial.delay(k, n);
+            if (trial.stock() >= 0 && tryout.leastHarmIs(trial, plan.bestHarm)) {
                 return n;
             }
         }
@@ -496,6 +484,21 @@ public final class PourPlan {
             copyRow(other.done, done);
             copyRow(other.truckTimes, truckTimes);
             copyRow(other.truckLoads, truckLoads);
+        }
+
+        int swapBound(int what, int v) {
+            int before;
+            if (what == 0) {
+                before = age;
+                age = v;
+            } else if (what == 1) {
+                before = heavy;
+                heavy = v;
+            } else {
+                before = light;
+                light = v;
+            }
+            return before;
         }
 
         // -- cells
