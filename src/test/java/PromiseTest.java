@@ -12,17 +12,17 @@ public final class PromiseTest {
         }
     }
 
-    private static void told(PourPlan x, int from, int... want) {
+    private static void told(Counted x, int from, int... want) {
         for (int i = 0; i < want.length; i++) due("told(" + (from + i) + ")", x.told(from + i), want[i]);
     }
 
-    private static void order(PourPlan x, int... want) {
+    private static void order(Counted x, int... want) {
         for (int i = 0; i < want.length; i++) due("best(" + i + ")", x.best(i), want[i]);
         due("best(" + want.length + ")", x.best(want.length), NONE);
     }
 
     /** All of section 1 and what is told of it, in one line. */
-    private static String all(PourPlan x) {
+    private static String all(Counted x) {
         StringBuilder s = new StringBuilder();
         for (int i = 0; i < 20; i++) s.append(x.told(i)).append(' ');
         for (int c = 0; c < 9; c++) s.append(x.cell(c, 0)).append('/').append(x.cell(c, 1)).append('/').append(x.cell(c, 2)).append(' ');
@@ -30,7 +30,7 @@ public final class PromiseTest {
         return s.toString();
     }
 
-    private static void unchanged(PourPlan x, String before) {
+    private static void unchanged(Counted x, String before) {
         String now = all(x);
         if (!now.equals(before)) {
             wrong++;
@@ -39,21 +39,21 @@ public final class PromiseTest {
     }
 
     /** One STRIP of two LAYERS, and TRUCKS with a LOAD each at these TIMES. */
-    private static PourPlan pair(int... times) {
-        PourPlan x = new PourPlan();
+    private static Counted pair(int... times) {
+        Counted x = new Counted();
         x.build(1, 2);
         for (int t : times) x.truck(t, 1);
         return x;
     }
 
-    private static PourPlan wall(int strips, int layers) {
-        PourPlan x = new PourPlan();
+    private static Counted wall(int strips, int layers) {
+        Counted x = new Counted();
         x.build(strips, layers);
         return x;
     }
 
     private static void newObject() {
-        PourPlan x = new PourPlan();
+        Counted x = new Counted();
         told(x, 0, 3, 2, 0, 0, 0, 0, 0, 6, 3, 1, 0, 0, NONE, NONE, NONE, NONE, 0, 0, NONE, 0);
         for (int c = 0; c < 6; c++) {
             due("cell(c, 0)", x.cell(c, 0), 1);
@@ -73,7 +73,7 @@ public final class PromiseTest {
     }
 
     private static void toldOfAll() {
-        PourPlan x = pair(0, 10);
+        Counted x = pair(0, 10);
         for (int what : new int[] {-1, 20, LEAST, MOST}) due("told(" + what + ")", x.told(what), OUTSIDE);
         // the second CELL begins 9 after the first is done; WAITED 3 or more it would begin in time: other HARM
         told(x, 0, 1, 2, 0, 2, 1, 0, 1, 6, 3, 1, 0, 0, NONE, 3, 11, 2, 0, 0, NONE, 3);
@@ -98,7 +98,7 @@ public final class PromiseTest {
     /** A side that is covered when it is just AGE old does no HARM, on either hand. */
     private static void bestByAge() {
         for (int first = 0; first < 2; first++) {
-            PourPlan x = wall(2, 1);
+            Counted x = wall(2, 1);
             x.truck(0, 1);
             x.truck(7, 1);
             told(x, 13, 0, 8, 12);
@@ -112,7 +112,7 @@ public final class PromiseTest {
 
     /** A JOINT that is covered by now and one that is OPEN are in the HARM of BEST. */
     private static void bestWithJoints() {
-        PourPlan x = wall(2, 2);
+        Counted x = wall(2, 2);
         x.truck(0, 4);
         x.pour(0);
         x.rest(7);
@@ -127,7 +127,7 @@ public final class PromiseTest {
 
     /** All nine CELLS need the most, and no LOAD is over. */
     private static void bestOfTheMost() {
-        PourPlan x = wall(3, 3);
+        Counted x = wall(3, 3);
         for (int c = 0; c < 9; c++) x.need(c, 3);
         for (int k = 0; k < 6; k++) x.truck(0, 4);
         x.truck(0, 2);
@@ -138,7 +138,7 @@ public final class PromiseTest {
     }
 
     private static void firstOfLike() {
-        PourPlan x = wall(3, 2);
+        Counted x = wall(3, 2);
         x.truck(0, 4);
         x.pour(1);
         // the top and both sides of CELL 1 have like LEFT: the least number
@@ -153,7 +153,7 @@ public final class PromiseTest {
     }
 
     private static void bestOfLike() {
-        PourPlan x = wall(2, 1);
+        Counted x = wall(2, 1);
         x.truck(0, 1);
         x.truck(5, 3);
         // no ORDER does HARM; CELL 0 first begins at 5 and all ends at 9, CELL 1 first is DONE ahead of it
@@ -166,7 +166,7 @@ public final class PromiseTest {
     }
 
     private static void cellOfAll() {
-        PourPlan x = pair(0, 10);
+        Counted x = pair(0, 10);
         due("cell(2, 0)", x.cell(2, 0), UNKNOWN);
         due("cell(-1, 0)", x.cell(-1, 0), UNKNOWN);
         due("cell(2, 9)", x.cell(2, 9), UNKNOWN);
@@ -196,7 +196,7 @@ public final class PromiseTest {
     }
 
     private static void harmOfOthersBehindIt() {
-        PourPlan x = wall(2, 2);
+        Counted x = wall(2, 2);
         x.truck(0, 4);
         x.bound(0, 1);
         x.need(1, 3);
@@ -207,7 +207,7 @@ public final class PromiseTest {
     }
 
     private static void edgeOfAll() {
-        PourPlan x = wall(2, 2);
+        Counted x = wall(2, 2);
         x.truck(0, 4);
         int[] there = {0, 1, 3, 5, 7, 11};
         for (int e = 0; e < 12; e++) {
@@ -242,7 +242,7 @@ public final class PromiseTest {
     }
 
     private static void truckOfAll() {
-        PourPlan x = pair(0, 5);
+        Counted x = pair(0, 5);
         due("truckAt(2, 0)", x.truckAt(2, 0), UNKNOWN);
         due("truckAt(-1, 9)", x.truckAt(-1, 9), UNKNOWN);
         due("truckAt(0, 3)", x.truckAt(0, 3), OUTSIDE);
@@ -257,7 +257,7 @@ public final class PromiseTest {
         due("truckAt(0, 2), or STOCK is below 0", x.truckAt(0, 2), 1);
         x.need(1, 3);
         due("truckAt(0, 2), no BEST", x.truckAt(0, 2), NONE);
-        PourPlan y = wall(1, 1);
+        Counted y = wall(1, 1);
         y.truck(95, 2);
         due("truckAt(0, 2), 99 at most", y.truckAt(0, 2), 4);
         y.late(0, 4);
@@ -265,7 +265,7 @@ public final class PromiseTest {
     }
 
     private static void built() {
-        PourPlan x = new PourPlan();
+        Counted x = new Counted();
         x.truck(0, 4);
         x.need(1, 3);
         x.bound(0, 9);
@@ -293,7 +293,7 @@ public final class PromiseTest {
     }
 
     private static void trucks() {
-        PourPlan x = new PourPlan();
+        Counted x = new Counted();
         String before = all(x);
         due("truck(-1, 1)", x.truck(-1, 1), OUTSIDE);
         due("truck(100, 1)", x.truck(100, 1), OUTSIDE);
@@ -314,7 +314,7 @@ public final class PromiseTest {
     }
 
     private static void lateTrucks() {
-        PourPlan x = pair(0, 50);
+        Counted x = pair(0, 50);
         String before = all(x);
         due("late(2, 0)", x.late(2, 0), UNKNOWN);
         due("late(2, 100)", x.late(2, 100), UNKNOWN);
@@ -344,7 +344,7 @@ public final class PromiseTest {
     }
 
     private static void trucksAway() {
-        PourPlan x = wall(3, 1);
+        Counted x = wall(3, 1);
         x.truck(0, 1);
         x.truck(0, 2);
         x.truck(9, 3);
@@ -365,7 +365,7 @@ public final class PromiseTest {
     }
 
     private static void needs() {
-        PourPlan x = pair(0, 1, 2, 3);
+        Counted x = pair(0, 1, 2, 3);
         String before = all(x);
         due("need(2, 1)", x.need(2, 1), UNKNOWN);
         due("need(2, 4)", x.need(2, 4), UNKNOWN);
@@ -384,7 +384,7 @@ public final class PromiseTest {
     }
 
     private static void bounds() {
-        PourPlan x = pair(0, 4);
+        Counted x = pair(0, 4);
         String before = all(x);
         due("bound(3, 1)", x.bound(3, 1), OUTSIDE);
         due("bound(-1, 1)", x.bound(-1, 1), OUTSIDE);
@@ -407,7 +407,7 @@ public final class PromiseTest {
     }
 
     private static void pours() {
-        PourPlan x = wall(2, 2);
+        Counted x = wall(2, 2);
         x.truck(3, 2);
         x.truck(20, 1);
         String before = all(x);
@@ -428,7 +428,7 @@ public final class PromiseTest {
     }
 
     private static void rests() {
-        PourPlan x = new PourPlan();
+        Counted x = new Counted();
         String before = all(x);
         due("rest(0)", x.rest(0), OUTSIDE);
         due("rest(41)", x.rest(41), OUTSIDE);
@@ -445,7 +445,7 @@ public final class PromiseTest {
     }
 
     private static void follows() {
-        PourPlan x = wall(2, 1);
+        Counted x = wall(2, 1);
         due("follow()", x.follow(), NOT);
         x.truck(0, 1);
         due("follow(), not enough for all", x.follow(), NOT);
@@ -470,7 +470,7 @@ public final class PromiseTest {
 
     /** What is drawn is done by calls on a twin; both stand alike then. */
     private static void drifts(int seed, int strips, int layers, int rests) {
-        PourPlan x = wall(strips, layers), twin = wall(strips, layers);
+        Counted x = wall(strips, layers), twin = wall(strips, layers);
         for (int i = 0; i < rests; i++) due("rest(10)", x.rest(10), twin.rest(10));
         due("seed", x.seed(seed), 0);
         twinSeed = seed;
@@ -497,7 +497,7 @@ public final class PromiseTest {
         told(x, 19, 3);
         x.undo(1);
         told(x, 19, 2);
-        PourPlan y = wall(1, 1);
+        Counted y = wall(1, 1);
         y.drift(1);
         due("seed(0) behind four draws", y.seed(0), fourDraws());
     }
@@ -508,29 +508,37 @@ public final class PromiseTest {
         return (int) twinSeed;
     }
 
-    private static void undone() {
-        PourPlan x = pair(0, 4);
-        String[] stood = new String[12];
-        int n = 0;
+    private interface Deed {
+        int on(Counted x);
+    }
+
+    /** A fresh object for each step, so that none has more than 512 calls. */
+    private static Counted behind(Deed[] deeds, int n) {
+        Counted x = pair(0, 4);
         x.keep(0);
-        stood[n++] = all(x);
-        Runnable[] deeds = {() -> x.need(1, 2), () -> x.truck(4, 3), () -> x.late(1, 2), () -> x.bound(0, 3), () -> x.bound(1, 5),
-            () -> x.bound(2, 4), () -> x.pour(0), () -> x.rest(9), () -> x.away(1), () -> x.follow(), () -> x.build(2, 2)};
-        for (Runnable deed : deeds) {
-            deed.run();
-            if (n < stood.length) stood[n++] = all(x);
+        for (int i = 0; i < n; i++) deeds[i].on(x);
+        return x;
+    }
+
+    private static void undone() {
+        Deed[] deeds = {x -> x.need(1, 2), x -> x.truck(4, 3), x -> x.late(1, 2), x -> x.bound(0, 3), x -> x.bound(1, 5),
+            x -> x.bound(2, 4), x -> x.pour(0), x -> x.rest(9), x -> x.away(1), x -> x.follow(), x -> x.build(2, 2)};
+        for (int n = deeds.length; n >= 0; n--) {
+            Counted before = behind(deeds, n);
+            due("deeds", before.told(19), n);
+            String stood = all(before);
+            for (int steps = 1; n + steps <= deeds.length; steps++) {
+                Counted x = behind(deeds, n + steps);
+                due("undo(" + steps + ")", x.undo(steps), before.told(2));
+                unchanged(x, stood);
+            }
         }
-        due("deeds", x.told(19), deeds.length);
-        for (int i = deeds.length - 1; i >= 0; i--) {
-            due("undo(1)", x.undo(1), Integer.parseInt(stood[i].split(" ")[2]));
-            unchanged(x, stood[i]);
-        }
-        due("undo(1)", x.undo(1), NOT);
+        due("undo(12)", behind(deeds, deeds.length).undo(12), NOT);
         undoneBounds();
     }
 
     private static void undoneBounds() {
-        PourPlan x = new PourPlan();
+        Counted x = new Counted();
         for (int n : new int[] {0, 21, -1, LEAST, MOST}) due("undo(" + n + ")", x.undo(n), OUTSIDE);
         for (int i = 1; i <= 25; i++) x.rest(1);
         told(x, 19, 20);
@@ -552,7 +560,7 @@ public final class PromiseTest {
     }
 
     private static void bests() {
-        PourPlan x = wall(3, 3);
+        Counted x = wall(3, 3);
         due("best(0), no BEST", x.best(0), NONE);
         x.bound(0, 4);
         for (int k = 0; k < 9; k++) x.truck(2 * k, 1);
@@ -564,7 +572,7 @@ public final class PromiseTest {
         x.pour(1);
         x.need(8, 3);
         due("best(0), not enough comes", x.best(0), NONE);
-        PourPlan y = wall(2, 2);
+        Counted y = wall(2, 2);
         y.truck(0, 4);
         // all in a row: any ORDER does no HARM, so the first
         order(y, 0, 1, 2, 3);
@@ -582,7 +590,7 @@ public final class PromiseTest {
     }
 
     private static void stops() {
-        PourPlan x = wall(2, 2);
+        Counted x = wall(2, 2);
         due("stop(0), no BEST", x.stop(0), NONE);
         due("stop(1), no BEST", x.stop(1), NONE);
         due("stop(2), no BEST", x.stop(2), OUTSIDE);
@@ -607,7 +615,7 @@ public final class PromiseTest {
     }
 
     private static void writes() {
-        PourPlan x = pair(0, 10);
+        Counted x = pair(0, 10);
         due("write(1, true)", x.write(1, true), UNKNOWN);
         due("write(-1, true)", x.write(-1, true), UNKNOWN);
         due("write(0, false)", x.write(0, false), 1);
@@ -623,7 +631,7 @@ public final class PromiseTest {
         due("write(0, false), the 21st", x.write(0, false), FULL);
         due("write(2, false), UNKNOWN ahead of FULL", x.write(2, false), UNKNOWN);
         told(x, 17, 20, 1);
-        PourPlan y = new PourPlan();
+        Counted y = new Counted();
         y.write(17, false);
         y.keep(0);
         told(y, 17, 1, NONE);
@@ -634,7 +642,7 @@ public final class PromiseTest {
     }
 
     private static void tears() {
-        PourPlan x = new PourPlan();
+        Counted x = new Counted();
         due("tear()", x.tear(), 0);
         x.write(0, true);
         x.write(1, false);
@@ -647,7 +655,7 @@ public final class PromiseTest {
     }
 
     private static void seeds() {
-        PourPlan x = new PourPlan();
+        Counted x = new Counted();
         due("seed(-1)", x.seed(-1), OUTSIDE);
         due("seed(LEAST)", x.seed(LEAST), OUTSIDE);
         due("seed(MOST)", x.seed(MOST), 0);
@@ -658,7 +666,7 @@ public final class PromiseTest {
     }
 
     private static void keeps() {
-        PourPlan x = pair(0, 4);
+        Counted x = pair(0, 4);
         for (int i : new int[] {-1, 2, LEAST, MOST}) due("keep(" + i + ")", x.keep(i), UNKNOWN);
         told(x, 19, 3);
         due("keep(1)", x.keep(1), 1);
@@ -674,7 +682,7 @@ public final class PromiseTest {
     }
 
     private static void goesBack() {
-        PourPlan x = pair(0, 4);
+        Counted x = pair(0, 4);
         for (int i : new int[] {-1, 2, LEAST, MOST}) due("goBack(" + i + ")", x.goBack(i), UNKNOWN);
         due("goBack(1)", x.goBack(1), NOT);
         x.seed(77);
