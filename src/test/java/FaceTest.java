@@ -5,7 +5,10 @@ import java.lang.reflect.Modifier;
 import java.nio.file.Files;
 import java.nio.file.Path;
 import java.util.ArrayList;
+import java.util.LinkedHashMap;
 import java.util.List;
+import java.util.Map;
+import java.util.Set;
 import java.util.TreeSet;
 import java.util.regex.Matcher;
 import java.util.regex.Pattern;
@@ -19,6 +22,7 @@ public final class FaceTest {
     private static final String[] CONSTANTS = {"NONE", "UNKNOWN", "OUTSIDE", "NOT", "FULL"};
     private static final String[] FORBIDDEN = {"\\bthrow\\b", "\\btry\\b", "\\bcatch\\b", "\\bsynchronized\\b", "\\bassert\\b", "->", "::",
         "\\bimport\\b", "\\bpackage\\b", "Exact\\b", "\\bSystem\\.(?!arraycopy)", "\\bThread\\b", "\\bRandom\\b", "static \\{"};
+    private static final int MOST_DEEP = 8;
     private static int wrong = 0;
 
     private static void check(boolean right, String what) {
@@ -81,17 +85,53 @@ public final class FaceTest {
             Matcher m = Pattern.compile(word).matcher(text);
             check(!m.find(), "not in the language: " + word);
         }
-        List<String> lines = new ArrayList<>(text.lines().toList());
-        int began = -1;
-        for (int i = 0; i < lines.size(); i++) {
-            String line = lines.get(i);
-            boolean opens = line.matches(" {4}( {4})?[a-z].*\\) \\{");
-            if (opens) began = i;
-            if (began >= 0 && line.matches(" {4}( {4})?\\}")) {
-                check(i - began <= 60, "a long method: " + lines.get(began).trim());
-                began = -1;
-            }
+        Map<String, String> bodies = bodies(text.lines().toList());
+        check(bodies.keySet().equals(allNames()), "not all methods were read from the source: " + bodies.keySet());
+        for (Map.Entry<String, String> body : bodies.entrySet()) {
+            check(body.getValue().lines().count() <= 60, "a long method: " + body.getKey());
+            check(!body.getValue().matches("(?s).*\\bnew\\b.*"), "makes objects, call by call: " + body.getKey());
         }
+        for (String name : bodies.keySet()) {
+            List<String> chain = deepest(name, bodies, List.of());
+            check(chain.size() <= MOST_DEEP, "too deep: " + chain);
+        }
+    }
+
+    private static Set<String> allNames() {
+        Set<String> names = new TreeSet<>();
+        for (Method m : PourPlan.class.getDeclaredMethods()) names.add(m.getName());
+        for (Class<?> inside : PourPlan.class.getDeclaredClasses()) {
+            for (Method m : inside.getDeclaredMethods()) names.add(m.getName());
+        }
+        return names;
+    }
+
+    /** By name, what stands between a method's braces; constructors are left out. Two of one name could not be told apart here. */
+    private static Map<String, String> bodies(List<String> lines) {
+        Map<String, String> bodies = new LinkedHashMap<>();
+        Pattern head = Pattern.compile("( {4}(?: {4})?)[a-z][^=]* ([a-z]\\w*)\\([^()]*\\) \\{");
+        for (int i = 0; i < lines.size(); i++) {
+            Matcher m = head.matcher(lines.get(i));
+            if (!m.matches()) continue;
+            StringBuilder body = new StringBuilder();
+            while (++i < lines.size() && !lines.get(i).equals(m.group(1) + "}")) body.append(lines.get(i)).append('\n');
+            check(bodies.put(m.group(2), body.toString()) == null, "two methods of one name: " + m.group(2));
+        }
+        return bodies;
+    }
+
+    /** The longest chain of calls from there on, recursion not counted. */
+    private static List<String> deepest(String name, Map<String, String> bodies, List<String> above) {
+        List<String> open = new ArrayList<>(above);
+        open.add(name);
+        List<String> deepest = open;
+        Matcher m = Pattern.compile("\\b([a-z]\\w*)\\(").matcher(bodies.get(name));
+        while (m.find()) {
+            if (!bodies.containsKey(m.group(1)) || open.contains(m.group(1))) continue;
+            List<String> chain = deepest(m.group(1), bodies, open);
+            if (chain.size() > deepest.size()) deepest = chain;
+        }
+        return deepest;
     }
 
     public static void main(String[] args) throws Exception {

@@ -535,6 +535,47 @@ public final class PromiseTest {
         }
         due("undo(12)", behind(deeds, deeds.length).undo(12), NOT);
         undoneBounds();
+        bestIsOfNow();
+    }
+
+    /** All that hangs on BEST, in one line. */
+    private static String plan(Counted x) {
+        StringBuilder s = new StringBuilder();
+        for (int what = 13; what < 16; what++) s.append(x.told(what)).append(' ');
+        for (int i = 0; i < 6; i++) s.append(x.best(i)).append(' ');
+        s.append(x.stop(0)).append(' ').append(x.stop(1));
+        for (int k = 0; k < 3; k++) s.append(' ').append(x.truckAt(k, 2));
+        return s.toString();
+    }
+
+    /** JOINTS of both kinds, and not enough LOADS until the last TRUCK: every change makes BEST another. */
+    private static Counted between() {
+        Counted x = wall(2, 2);
+        x.truck(0, 4);
+        x.keep(0);
+        x.truck(3, 2);
+        x.truck(9, 2);
+        x.pour(1);
+        x.need(2, 3);
+        x.need(3, 3);
+        x.rest(4);
+        x.bound(0, 2);
+        return x;
+    }
+
+    /** What BEST was asked for ahead of a change is not told behind it: as if it had not been asked. */
+    private static void bestIsOfNow() {
+        Deed[] changes = {x -> x.build(3, 1), x -> x.truck(4, 2), x -> x.late(1, 6), x -> x.away(2), x -> x.need(0, 2),
+            x -> x.bound(0, 1), x -> x.bound(1, 9), x -> x.bound(2, 9), x -> x.pour(0), x -> x.rest(4), x -> x.follow(),
+            x -> x.drift(6), x -> x.undo(1), x -> x.goBack(0)};
+        for (int i = 0; i < changes.length; i++) {
+            Counted asked = between(), silent = between();
+            String before = plan(asked);
+            due("change " + i, changes[i].on(asked), changes[i].on(silent));
+            String behind = plan(asked);
+            due("BEST behind change " + i + " is another", behind.equals(before) ? 0 : 1, 1);
+            due("BEST behind change " + i + " is that of now", behind.equals(plan(silent)) ? 1 : 0, 1);
+        }
     }
 
     private static void undoneBounds() {
